@@ -553,6 +553,8 @@ public final class TimesBench {
         final int[] fiber = new int[MAX_SIZE * MAX_SIZE];
         final int[] row = new int[WAYS * MAX_TIMES];
         final int[] shape = new int[WAYS * MAX_TIMES];
+        /** How many other times have a row alike to this one, kept up so that no walk counts anew. */
+        final int[] mates = new int[WAYS * MAX_TIMES];
         int times;
 
         Piece(Ground ground) {
@@ -573,6 +575,7 @@ public final class TimesBench {
             System.arraycopy(other.fiber, 0, fiber, 0, MAX_SIZE * MAX_SIZE);
             System.arraycopy(other.row, 0, row, 0, WAYS * MAX_TIMES);
             System.arraycopy(other.shape, 0, shape, 0, WAYS * MAX_TIMES);
+            System.arraycopy(other.mates, 0, mates, 0, WAYS * MAX_TIMES);
             times = other.times;
         }
 
@@ -636,23 +639,46 @@ public final class TimesBench {
         }
 
         void put(int which, int t, int told) {
-            row[MAX_TIMES * which + t] = told;
-            shape[MAX_TIMES * which + t] = ground.shape(told);
+            int at = MAX_TIMES * which + t;
+            countMates(which, t, -1);
+            row[at] = told;
+            shape[at] = ground.shape(told);
+            countMates(which, t, 1);
+        }
+
+        private void countMates(int which, int t, int change) {
+            int from = MAX_TIMES * which;
+            int own = shape[from + t];
+            if (own == 0) {
+                return;
+            }
+            for (int at = from; at < from + times; at++) {
+                if (shape[at] == own && at != from + t) {
+                    mates[at] += change;
+                    mates[from + t] += change;
+                }
+            }
         }
 
         void append(int u, int v, int w) {
-            put(U, times, u);
-            put(V, times, v);
-            put(W, times, w);
+            for (int which = 0; which < WAYS; which++) {
+                shape[MAX_TIMES * which + times] = 0;
+                mates[MAX_TIMES * which + times] = 0;
+            }
             times++;
+            put(U, times - 1, u);
+            put(V, times - 1, v);
+            put(W, times - 1, w);
         }
 
         void remove(int t) {
             int behind = times - t - 1;
             for (int which = 0; which < WAYS; which++) {
                 int at = MAX_TIMES * which + t;
+                countMates(which, t, -1);
                 System.arraycopy(row, at + 1, row, at, behind);
                 System.arraycopy(shape, at + 1, shape, at, behind);
+                System.arraycopy(mates, at + 1, mates, at, behind);
             }
             times--;
         }
@@ -673,6 +699,10 @@ public final class TimesBench {
                     append(ground.power[i], ground.power[j], v * ground.power[k]);
                 }
             }
+        }
+
+        int matesOf(int which, int t) {
+            return mates[MAX_TIMES * which + t];
         }
 
         boolean alike(int which, int s, int t) {
@@ -728,12 +758,7 @@ public final class TimesBench {
             int moves = 0;
             for (int which = 0; which < WAYS; which++) {
                 for (int s = 0; s < piece.times; s++) {
-                    for (int t = s + 1; t < piece.times; t++) {
-                        if (piece.alike(which, s, t)) {
-                            // What is alike one way round is alike the other way round.
-                            moves += 2;
-                        }
-                    }
+                    moves += piece.matesOf(which, s);
                 }
             }
             return moves;
@@ -743,18 +768,27 @@ public final class TimesBench {
             int left = n;
             for (int which = 0; which < WAYS; which++) {
                 for (int s = 0; s < piece.times; s++) {
-                    for (int t = 0; t < piece.times; t++) {
-                        if (s == t || !piece.alike(which, s, t)) {
-                            continue;
-                        }
-                        if (left == 0) {
-                            doMove(piece, which, s, t);
-                            return;
-                        }
-                        left--;
+                    int mates = piece.matesOf(which, s);
+                    if (left < mates) {
+                        doMove(piece, which, s, mateOf(piece, which, s, left));
+                        return;
                     }
+                    left -= mates;
                 }
             }
+        }
+
+        private int mateOf(Piece piece, int which, int s, int n) {
+            int left = n;
+            for (int t = 0; t < piece.times; t++) {
+                if (t != s && piece.alike(which, s, t)) {
+                    if (left == 0) {
+                        return t;
+                    }
+                    left--;
+                }
+            }
+            return s;
         }
 
         void doMove(Piece piece, int which, int s, int t) {
@@ -791,6 +825,9 @@ public final class TimesBench {
 
         private boolean joinAlike(Piece piece) {
             for (int s = 0; s < piece.times; s++) {
+                if (waysWithMates(piece, s) < 2) {
+                    continue;
+                }
                 for (int t = s + 1; t < piece.times; t++) {
                     int third = thirdBesideAlike(piece, s, t);
                     if (third != NONE) {
@@ -800,6 +837,16 @@ public final class TimesBench {
                 }
             }
             return false;
+        }
+
+        private int waysWithMates(Piece piece, int s) {
+            int ways = 0;
+            for (int which = 0; which < WAYS; which++) {
+                if (piece.matesOf(which, s) > 0) {
+                    ways++;
+                }
+            }
+            return ways;
         }
 
         private int thirdBesideAlike(Piece piece, int s, int t) {

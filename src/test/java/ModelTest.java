@@ -10,6 +10,11 @@ import java.util.Random;
 public final class ModelTest {
     private static final int CALLS = 512;
     private static final int[] GROUNDS = {2, 3, 5, 7};
+    private static final int[] FAR = {Integer.MIN_VALUE, Integer.MAX_VALUE, 40353607, 65536, 512, -2};
+    /** Grounds with sizes A and B of few enough pairs to be gone through, and some that are too large. */
+    private static final int[][] SEARCHED = {{2, 3, 3}, {2, 2, 4}, {2, 4, 2}, {2, 1, 5}, {2, 3, 2}, {2, 2, 2},
+        {3, 2, 3}, {3, 3, 2}, {3, 4, 1}, {3, 2, 2}, {5, 2, 2}, {5, 1, 3}, {7, 1, 3}, {7, 2, 1},
+        {2, 3, 4}, {2, 6, 1}, {3, 3, 3}, {3, 1, 5}, {5, 2, 3}, {7, 2, 2}, {7, 4, 1}, {7, 9, 9}};
     private static int wrong = 0;
 
     public static void main(String[] args) {
@@ -17,6 +22,14 @@ public final class ModelTest {
         int first = args.length > 1 ? Integer.parseInt(args[1]) : 0;
         for (int run = first; run < first + runs && wrong == 0; run++) {
             new Run(run).go();
+        }
+        for (int run = 0; run < 8 && wrong == 0; run++) {
+            for (int[] searched : SEARCHED) {
+                new Run(run).search(searched[0], searched[1], searched[2], 1 + run % 5);
+            }
+            for (int p : GROUNDS) {
+                new Run(run).sumUp(p, 40 - run, 9 - run % 3);
+            }
         }
         System.out.println(wrong == 0 ? "model: all answers agree" : "model: answers differ");
         if (wrong != 0) {
@@ -48,6 +61,40 @@ public final class ModelTest {
             }
         }
 
+        /** A box all filled at random: what is least of it, and which scheme is the first. */
+        void search(int p, int a, int b, int c) {
+            due(bench.ground(p), model.ground(p), "ground", p);
+            due(bench.box(a, b, c), model.box(a, b, c), "box", a, b, c);
+            for (int i = 0; i < a; i++) {
+                for (int j = 0; j < b; j++) {
+                    for (int k = 0; k < c; k++) {
+                        int v = random.nextInt(p);
+                        due(bench.set(i, j, k, v), model.set(i, j, k, v), "set", i, j, k, v);
+                    }
+                }
+            }
+            due(bench.least(), model.least(), "least");
+            due(bench.find(), model.find(), "find");
+            compareAll();
+        }
+
+        /** Many wide rows: what is shared goes on until no more columns may come. */
+        void sumUp(int p, int times, int size) {
+            due(bench.ground(p), model.ground(p), "ground", p);
+            due(bench.box(size, size, 1), model.box(size, size, 1), "box", size, size, 1);
+            int all = (int) Math.pow(p, size);
+            for (int t = 0; t < times; t++) {
+                int u = random.nextInt(all);
+                int v = random.nextInt(all);
+                due(bench.time(u, v, 1), model.time(u, v, 1), "time", u, v, 1);
+            }
+            for (int which = 0; which < 2; which++) {
+                due(bench.sums(which, 0), model.sums(which, 0), "sums", which, 0);
+                due(bench.sums(which, 1), model.sums(which, 1), "sums", which, 1);
+            }
+            compareAll();
+        }
+
         /** A number below n; now and then one just outside. */
         int below(int n) {
             int roll = random.nextInt(60);
@@ -56,6 +103,9 @@ public final class ModelTest {
             }
             if (roll == 1) {
                 return n;
+            }
+            if (roll == 2) {
+                return FAR[random.nextInt(FAR.length)];
             }
             return n <= 0 ? 0 : random.nextInt(n);
         }
