@@ -319,11 +319,9 @@ public final class TimesBench {
     }
 
     public int back(int p) {
-        if (!isPlace(p)) {
-            return NUMBER;
-        }
-        if (!isKept[p]) {
-            return STATE;
+        int fault = faultOfPlace(p);
+        if (fault != 0) {
+            return fault;
         }
         piece.copyFrom(kept[p]);
         emptyHands();
@@ -331,11 +329,9 @@ public final class TimesBench {
     }
 
     public int beside(int p) {
-        if (!isPlace(p)) {
-            return NUMBER;
-        }
-        if (!isKept[p]) {
-            return STATE;
+        int fault = faultOfPlace(p);
+        if (fault != 0) {
+            return fault;
         }
         Piece other = kept[p];
         for (int way = 0; way < WAYS; way++) {
@@ -352,11 +348,9 @@ public final class TimesBench {
     }
 
     public int within(int p) {
-        if (!isPlace(p)) {
-            return NUMBER;
-        }
-        if (!isKept[p]) {
-            return STATE;
+        int fault = faultOfPlace(p);
+        if (fault != 0) {
+            return fault;
         }
         Piece other = kept[p];
         for (int way = 0; way < WAYS; way++) {
@@ -384,6 +378,13 @@ public final class TimesBench {
 
     private static boolean isPlace(int p) {
         return p >= 0 && p < PLACES;
+    }
+
+    private int faultOfPlace(int p) {
+        if (!isPlace(p)) {
+            return NUMBER;
+        }
+        return isKept[p] ? 0 : STATE;
     }
 
     private void startBox(int a, int b, int c) {
