@@ -295,6 +295,26 @@ public final class BoundsEdgesTest {
         Edges.dueTime(x, 1, 2, 1, 1);
     }
 
+    @Edge(promise = 23, says = "the ROW of numbers by which these sum up to t(.., .., k)")
+    private static void findOfSeveralInOneTable() {
+        // 1 0, 0 1 is the sum of 1 1, 0 0 and 0 1, 0 1 over 2; 1 1, 0 0 is there too.
+        TimesBench x = Edges.onBox(2, 2, 2, 2);
+        x.set(0, 0, 0, 1);
+        x.set(1, 1, 0, 1);
+        x.set(0, 0, 1, 1);
+        x.set(0, 1, 1, 1);
+        due("two", x.find(), 2);
+        Edges.dueTime(x, 0, 1, 3, 3);
+        Edges.dueTime(x, 1, 3, 2, 1);
+        // 0 1, 1 0 is all ones less 1 0, 0 0 and 0 0, 0 1 over 3.
+        TimesBench y = Edges.on(3);
+        y.rows(2, 2, 0);
+        due("three", y.find(), 3);
+        Edges.dueTime(y, 0, 1, 1, 1 + 2 * 3);
+        Edges.dueTime(y, 1, 3, 3, 2 * 3 + 9);
+        Edges.dueTime(y, 2, 4, 4, 3);
+    }
+
     @Edge(promise = 23, says = "w(k) is, for each k, the ROW of numbers by which these sum up to t(.., .., k)")
     private static void findNoughtsInW() {
         // Of nine tables the first and the last aren't noughts: 2 at 0 0, and 1 at 0 0 with 2 at 1 1.

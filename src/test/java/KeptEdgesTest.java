@@ -191,6 +191,31 @@ public final class KeptEdgesTest {
         due("none to drop", x.drop(0), NUMBER);
     }
 
+    @Edge(promise = 28, says = "THE SCHEME become those that are KEPT in place p")
+    private static void backToWhatCanBeMoved() {
+        Supplier<TimesBench> made = () -> {
+            TimesBench x = Edges.onBox(5, 2, 1, 2);
+            x.time(6, 1, 5);
+            x.time(12, 1, 1);
+            x.keep(2);
+            x.box(2, 1, 2);
+            x.time(1, 2, 5);
+            x.time(5, 0, 5);
+            x.back(2);
+            return x;
+        };
+        // u by 2, v by 1.
+        due("moves", made.get().many(6), 4);
+        TimesBench moved = made.get();
+        due("v", moved.move(1, 0, 1), 1);
+        Edges.dueTime(moved, 0, 6, 1, 6);
+        Edges.dueTime(moved, 1, 6, 1, 1);
+        due("w isn't alike", made.get().move(2, 0, 1), STATE);
+        TimesBench less = made.get();
+        due("u and v", less.less(), 1);
+        Edges.dueTime(less, 0, 6, 1, 7);
+    }
+
     // ---- promise 29
 
     @Edge(promise = 29, says = "NUMBER: there is no such place")
@@ -345,7 +370,7 @@ public final class KeptEdgesTest {
         }
     }
 
-    @Edge(promise = 30, says = "SIZES are multiplied; index i of THE BOX and i' of p's becomes i times p's SIZE and i' more")
+    @Edge(promise = 30, says = "index i of THE BOX and i' of p's becomes i times p's SIZE and i' more")
     private static void withinToNine() {
         for (int way = 0; way < 3; way++) {
             TimesBench x = two(sizesBut(1, way, 3), 0, sizesBut(2, way, 3), 0);

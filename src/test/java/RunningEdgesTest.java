@@ -159,8 +159,8 @@ public final class RunningEdgesTest {
 
     private static void dueSums(String what, TimesBench x, int plain, int shared) {
         for (int which = 0; which < 2; which++) {
-            due(what + ", plain", x.sums(which, 0), plain);
             due(what + ", shared", x.sums(which, 1), shared);
+            due(what + ", plain", x.sums(which, 0), plain);
         }
     }
 
@@ -213,6 +213,7 @@ public final class RunningEdgesTest {
         dueSums("the least a", rowsOf(2, 15, 3, 6, 9), 6, 5);
         // 0 1, 0 3 and 2 3 are in two rows each; after 0 1 2 3 is shared, after 0 3 nothing would be: 5.
         dueSums("the least b", rowsOf(2, 9, 3, 12, 15), 6, 4);
+        dueSums("the least b, seen last", rowsOf(2, 9, 15, 3, 12), 6, 4);
         // 2 1 1, 0 2 1, 0 2 2, 1 2 1: 0 1 by 2, 1 2 by 1 and 1 2 by 2 are in two rows each; after 0 1 nothing is
         // shared, after 1 2 by 1 would 1 2 by 2 be: 4.
         dueSums("a ahead of r", rowsOf(3, 14, 15, 24, 16), 6, 5);

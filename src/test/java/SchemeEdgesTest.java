@@ -566,7 +566,7 @@ public final class SchemeEdgesTest {
         }
     }
 
-    @Edge(promise = 20, says = "At index a of one way of THE BOX f times what is at index b is added to all that is there")
+    @Edge(promise = 20, says = "At index a of one way of THE BOX f times what is at index b is added")
     private static void turnOfFirstAndLast() {
         TimesBench x = Edges.busy();
         due("j: 2 to 0 by 4", x.turn(1, 0, 2, 4), 1);
@@ -580,6 +580,22 @@ public final class SchemeEdgesTest {
         due("what is in hand stays", x.run(0), 4 + 0 * 5);
         due("kept ones stay", x.back(1), 1);
         dueScheme(x, time(3, 7, 2));
+    }
+
+    @Edge(promise = 20, says = "is added to all that is there")
+    private static void turnOfUnlikeSizes() {
+        int[][] boxes = {{0, 2, 9, 1}, {0, 2, 1, 9}, {1, 9, 2, 1}, {1, 1, 2, 9}, {2, 9, 1, 2}, {2, 1, 9, 2}};
+        for (int[] box : boxes) {
+            TimesBench x = Edges.onBox(3, box[1], box[2], box[3]);
+            int[] last = {box[1] - 1, box[2] - 1, box[3] - 1};
+            last[box[0]] = 0;
+            x.set(last[0], last[1], last[2], 2);
+            due("to the last index of that way", x.turn(box[0], 1, 0, 2), 1);
+            due("what was there", x.at(last[0], last[1], last[2]), 2);
+            last[box[0]] = 1;
+            due("twice 2, at the last of the others", x.at(last[0], last[1], last[2]), 1);
+            due("no more", x.many(5), 2);
+        }
     }
 
     @Edge(promise = 20, says = "and to number a of that ROW of each TIME f times number b")

@@ -213,6 +213,22 @@ public final class TimesEdgesTest {
         due("the first one's number", x.time(1, 1, 1), 0);
     }
 
+    @Edge(promise = 12, says = "A TIME goes")
+    private static void dropLeavesNoMoveBehind() {
+        TimesBench x = Edges.on(3);
+        Edges.addTimes(x, 40);
+        due("all are alike", x.many(6), 3 * 40 * 39);
+        x.drop(39);
+        due("one less", x.many(6), 3 * 39 * 38);
+        x.drop(0);
+        due("two less", x.many(6), 3 * 38 * 37);
+        x.time(0, 1, 2);
+        due("another one, alike in v and w", x.many(6), 38 * 37 + 2 * 39 * 38);
+        x.drop(38);
+        x.time(2, 2, 2);
+        due("another one, alike in all", x.many(6), 3 * 39 * 38);
+    }
+
     // ---- promise 13
 
     @Edge(promise = 13, says = "FULL: more than 40.")
