@@ -1132,7 +1132,7 @@ public final class TimesBench {
                 // bring no more than so many strangers to the slices.
                 strangers = n - slices.count;
                 chosen.clear();
-                if (pickFrom(0, 0, 0)) {
+                if (pickFrom(this, 0, 0, 0)) {
                     return n;
                 }
             }
@@ -1177,24 +1177,27 @@ public final class TimesBench {
             }
         }
 
-        /** Trying pairs in rising order, the first choice that does is the first of all. */
-        private boolean pickFrom(int depth, int from, int met) {
-            if (depth >= wanted || depth >= MAX_LEAST) {
+        /**
+         * Trying pairs in rising order, the first choice that does is the first of all. Static, as
+         * the language's rule 8 wants of a method that calls itself.
+         */
+        private static boolean pickFrom(Seeker seeker, int depth, int from, int met) {
+            if (depth >= seeker.wanted || depth >= MAX_LEAST) {
                 return true;
             }
-            for (int n = from; n < pairs; n++) {
-                boolean stranger = left[met][n] != 0;
-                if (stranger && met >= strangers || !chosen.add(table[n])) {
+            for (int n = from; n < seeker.pairs; n++) {
+                boolean stranger = seeker.left[met][n] != 0;
+                if (stranger && met >= seeker.strangers || !seeker.chosen.add(seeker.table[n])) {
                     continue;
                 }
-                pick[depth] = n;
+                seeker.pick[depth] = n;
                 if (stranger) {
-                    meet(met, n);
+                    seeker.meet(met, n);
                 }
-                if (pickFrom(depth + 1, n + 1, stranger ? met + 1 : met)) {
+                if (pickFrom(seeker, depth + 1, n + 1, stranger ? met + 1 : met)) {
                     return true;
                 }
-                chosen.removeLast();
+                seeker.chosen.removeLast();
             }
             return false;
         }

@@ -28,7 +28,7 @@ public final class FaceTest {
         constants();
         classesInside();
         words();
-        methodLengths();
+        methods();
         System.out.println(wrong == 0 ? "face: as the document and the rules ask" : "face: " + wrong + " faults");
         if (wrong != 0) {
             System.exit(1);
@@ -123,19 +123,25 @@ public final class FaceTest {
         }
     }
 
-    private static void methodLengths() throws Exception {
+    private static void methods() throws Exception {
         String[] lines = Files.readString(Path.of("src/main/java/TimesBench.java")).split("\n");
-        Pattern head = Pattern.compile("^(    |        )\\S.*\\) \\{$");
+        Pattern head = Pattern.compile("^(    |        )(?:(?!if|for|while|switch)\\S.*? )?(\\w+)\\(.*\\) \\{$");
         for (int at = 0; at < lines.length; at++) {
-            if (!head.matcher(lines[at]).matches()) {
+            Matcher matcher = head.matcher(lines[at]);
+            if (!matcher.matches()) {
                 continue;
             }
-            String indent = lines[at].substring(0, lines[at].length() - lines[at].stripLeading().length());
             int end = at;
-            while (end < lines.length && !lines[end].equals(indent + "}")) {
+            while (end < lines.length && !lines[end].equals(matcher.group(1) + "}")) {
                 end++;
             }
             due(lines[at].strip() + " is short", end - at <= 60);
+            String body = String.join("\n", Arrays.asList(lines).subList(at + 1, end));
+            boolean makesObjects = body.contains("new ") && !Character.isUpperCase(matcher.group(2).charAt(0));
+            due(lines[at].strip() + " makes no objects, so that the room never fills", !makesObjects);
+            boolean callsItself = Pattern.compile("(?<![\\w.])" + matcher.group(2) + "\\(").matcher(body).find();
+            due(lines[at].strip() + " calls itself and is private and static",
+                    !callsItself || lines[at].strip().startsWith("private static "));
         }
     }
 }
